@@ -495,7 +495,7 @@ public final class BlastPlanner {
 
     public int format(int blast) throws IndexOutOfBoundsException {
         Blast it = blastAt(blast);
-        formatted.write(it, site.times[blast]);
+        formatted.write(site.blastNames[blast], site.times[blast], it);
         return formatted.length;
     }
 
@@ -613,7 +613,6 @@ public final class BlastPlanner {
     private static final class Neighbour {
         final int[] quietFirst = new int[MOST_WINDOWS];
         final int[] quietEnd = new int[MOST_WINDOWS];
-        int name;
         int x;
         int y;
         int limit;
@@ -639,7 +638,6 @@ public final class BlastPlanner {
 
     /** A road: the straight line from one end to the other. */
     private static final class Road {
-        int name;
         int x1;
         int y1;
         int x2;
@@ -669,7 +667,6 @@ public final class BlastPlanner {
         final int[] delays = new int[MOST_CHARGES];
         final int[] squaredDistances = new int[MOST_NEIGHBOURS];
         final int[] dusty = new int[HOURS];
-        int name;
         int x;
         int y;
         int radius;
@@ -765,6 +762,9 @@ public final class BlastPlanner {
         final Neighbour[] neighbours = new Neighbour[MOST_NEIGHBOURS];
         final Road[] roads = new Road[MOST_ROADS];
         final Blast[] blasts = new Blast[MOST_BLASTS];
+        final int[] neighbourNames = new int[MOST_NEIGHBOURS];
+        final int[] roadNames = new int[MOST_ROADS];
+        final int[] blastNames = new int[MOST_BLASTS];
         final int[] times = new int[MOST_BLASTS];
         final int[] windDirections = new int[HOURS];
         final int[] windSpeeds = new int[HOURS];
@@ -1222,9 +1222,9 @@ public final class BlastPlanner {
         final byte[] bytes = new byte[40];
         int length;
 
-        void write(Blast blast, int time) {
+        void write(int name, int time, Blast blast) {
             length = 0;
-            addName(blast.name);
+            addName(name);
             add(' ');
             addTime(time);
             add(' ');
@@ -1280,7 +1280,7 @@ public final class BlastPlanner {
         }
     }
 
-    /** The input buffer, read token by token; after the first error nothing more is read. */
+    /** The input buffer, read token by token; the first error stays, and no number is read after it. */
     private static final class Tokens {
         private static final int MOST_LETTERS = 6;
         private static final int MOST_DIGITS = 5;
@@ -1318,23 +1318,16 @@ public final class BlastPlanner {
             }
         }
 
-        private boolean isIn(int offset, char least, char most) {
-            return offset >= 0 && offset < length && bytes[offset] >= least && bytes[offset] <= most;
-        }
-
-        private boolean isSpace(int offset) {
-            return isIn(offset, ' ', ' ') || isIn(offset, '\t', '\n');
-        }
-
         private void skipSpaces() {
-            while (position < length && isSpace(position)) {
+            while (position < length
+                    && (bytes[position] == ' ' || bytes[position] == '\t' || bytes[position] == '\n')) {
                 position++;
             }
         }
 
         private int endOfRun(char least, char most) {
             int end = position;
-            while (end < length && isIn(end, least, most)) {
+            while (end < length && bytes[end] >= least && bytes[end] <= most) {
                 end++;
             }
             return end;
@@ -1347,19 +1340,27 @@ public final class BlastPlanner {
 
         boolean numberFollows() {
             skipSpaces();
-            return isIn(position, '0', '9');
+            return endOfRun('0', '9') > position;
         }
 
-        void takeSemicolon() {
-            skipSpaces();
-            if (isIn(position, ';', ';')) {
-                position++;
-            } else {
+        /** Fails at the next token if it is not the one that is due. */
+        void need(boolean isDue) {
+            if (!isDue) {
                 fail(position, SYNTAX);
             }
         }
 
-        /** Goes behind the word if it is the next one; else stays in front of it. */
+        /** Goes behind the semicolon if it is the next token; else stays in front of the token. */
+        boolean tookSemicolon() {
+            skipSpaces();
+            if (position < length && bytes[position] == ';') {
+                position++;
+                return true;
+            }
+            return false;
+        }
+
+        /** Goes behind the word if it is the next token; else stays in front of the token. */
         boolean tookWord(String word) {
             skipSpaces();
             int end = endOfRun('a', 'z');
@@ -1367,7 +1368,7 @@ public final class BlastPlanner {
                 return false;
             }
             for (int i = 0; i < word.length(); i++) {
-                if (!isIn(position + i, word.charAt(i), word.charAt(i))) {
+                if (bytes[position + i] != word.charAt(i)) {
                     return false;
                 }
             }
@@ -1375,29 +1376,32 @@ public final class BlastPlanner {
             return true;
         }
 
-        void takeWord(String word) {
-            if (!failed() && !tookWord(word)) {
-                fail(position, SYNTAX);
-            }
-        }
-
-        /** Stays in front of the name; returns it as a number with five bits a letter, or NONE. */
-        int peekName() {
+        /** Returns the next name, which none of the first names given may be, or NONE after an error. */
+        int takeName(int[] used, int count) {
             skipSpaces();
             int end = endOfRun('a', 'z');
             if (end == position || end - position > MOST_LETTERS) {
                 fail(position, SYNTAX);
                 return NONE;
             }
+            int name = nameUpTo(end);
+            for (int i = 0; i < count; i++) {
+                if (used[i] == name) {
+                    fail(position, BAD_NAME);
+                    return NONE;
+                }
+            }
+            position = end;
+            return name;
+        }
+
+        /** A name is kept as one number, five bits a letter, so that names compare as numbers do. */
+        private int nameUpTo(int end) {
             int name = 0;
             for (int i = position; i < end; i++) {
                 name = name * 32 + bytes[i] - 'a' + 1;
             }
             return name;
-        }
-
-        void skipName() {
-            position = endOfRun('a', 'z');
         }
 
         /** Returns the next number, or NONE after an error. */
@@ -1438,9 +1442,7 @@ public final class BlastPlanner {
             site.reset();
             for (int lines = 0; lines <= MOST_BYTES && !tokens.failed() && !tokens.atEnd(); lines++) {
                 parseLine(site);
-                if (!tokens.failed()) {
-                    tokens.takeSemicolon();
-                }
+                tokens.need(tokens.tookSemicolon());
             }
             return !tokens.failed();
         }
@@ -1472,7 +1474,7 @@ public final class BlastPlanner {
             } else if (tokens.tookWord("wind")) {
                 parseWind(site);
             } else {
-                tokens.fail(tokens.position, SYNTAX);
+                tokens.need(false);
             }
         }
 
@@ -1491,12 +1493,9 @@ public final class BlastPlanner {
                 tokens.fail(start, TOO_MANY);
                 return;
             }
-            Neighbour it = site.neighbours[site.neighbourTotal];
-            it.name = tokens.peekName();
-            for (int i = 0; i < site.neighbourTotal; i++) {
-                needOther(site.neighbours[i].name, it.name);
-            }
-            tokens.skipName();
+            int index = site.neighbourTotal;
+            Neighbour it = site.neighbours[index];
+            site.neighbourNames[index] = tokens.takeName(site.neighbourNames, index);
             it.x = tokens.takeNumber(0, MOST_COORDINATE);
             it.y = tokens.takeNumber(0, MOST_COORDINATE);
             it.limit = tokens.takeNumber(0, 99999);
@@ -1513,7 +1512,7 @@ public final class BlastPlanner {
                 return;
             }
             int first = tokens.takeNumber(0, DAY - 1);
-            tokens.takeWord("to");
+            tokens.need(tokens.tookWord("to"));
             int end = tokens.takeNumber(first + 1, DAY);
             neighbour.addWindow(first, end);
         }
@@ -1523,12 +1522,9 @@ public final class BlastPlanner {
                 tokens.fail(start, TOO_MANY);
                 return;
             }
-            Road it = site.roads[site.roadTotal];
-            it.name = tokens.peekName();
-            for (int i = 0; i < site.roadTotal; i++) {
-                needOther(site.roads[i].name, it.name);
-            }
-            tokens.skipName();
+            int index = site.roadTotal;
+            Road it = site.roads[index];
+            site.roadNames[index] = tokens.takeName(site.roadNames, index);
             it.x1 = tokens.takeNumber(0, MOST_COORDINATE);
             it.y1 = tokens.takeNumber(0, MOST_COORDINATE);
             it.x2 = tokens.takeNumber(0, MOST_COORDINATE);
@@ -1541,12 +1537,9 @@ public final class BlastPlanner {
                 tokens.fail(start, TOO_MANY);
                 return;
             }
-            Blast it = site.blasts[site.blastTotal];
-            it.name = tokens.peekName();
-            for (int i = 0; i < site.blastTotal; i++) {
-                needOther(site.blasts[i].name, it.name);
-            }
-            tokens.skipName();
+            int index = site.blastTotal;
+            Blast it = site.blasts[index];
+            site.blastNames[index] = tokens.takeName(site.blastNames, index);
             it.x = tokens.takeNumber(0, MOST_COORDINATE);
             it.y = tokens.takeNumber(0, MOST_COORDINATE);
             it.radius = tokens.takeNumber(1, 500);
@@ -1565,15 +1558,9 @@ public final class BlastPlanner {
                 return;
             }
             int size = tokens.takeNumber(1, 999);
-            tokens.takeWord("at");
+            tokens.need(tokens.tookWord("at"));
             int delay = tokens.takeNumber(0, 9999);
             blast.addCharge(size, delay);
-        }
-
-        private void needOther(int usedName, int name) {
-            if (usedName == name) {
-                tokens.fail(tokens.position, BAD_NAME);
-            }
         }
     }
 }
