@@ -940,11 +940,11 @@ public final class BlastPlanner {
         }
 
         int closingFirst(int time) {
-            return Math.max(0, time - before);
+            return time > before ? time - before : 0;
         }
 
         int closingEnd(int time) {
-            return Math.min(DAY, time + after);
+            return time + after < DAY ? time + after : DAY;
         }
 
         void collectClosed(int road, MinuteSet set) {
@@ -1312,7 +1312,7 @@ public final class BlastPlanner {
         }
 
         void fail(int offset, int kind) {
-            if (!failed()) {
+            if (wrongKind == 0) {
                 wrongOffset = offset;
                 wrongKind = kind;
             }
