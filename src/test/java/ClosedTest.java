@@ -125,6 +125,8 @@ public final class ClosedTest {
         Check.same("over the end", 1, x.openMinutes(0, 604, 605));
         Check.same("between", 85, x.openMinutes(0, 600, 694));
         Check.same("around both", 87, x.openMinutes(0, 589, 705));
+        Check.same("the last minute of the day", 1, x.openMinutes(0, 1439, 1439));
+        Check.same("the first minute of the day", 1, x.openMinutes(0, 0, 0));
         Check.badArgument("first -1", () -> x.openMinutes(0, -1, 5));
         Check.badArgument("last before first", () -> x.openMinutes(0, 6, 5));
         Check.badArgument("last 1440", () -> x.openMinutes(0, 6, 1440));

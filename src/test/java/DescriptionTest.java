@@ -260,6 +260,11 @@ public final class DescriptionTest {
         Check.same("on the road", 0, x.neededRadius(3, 0));
         Check.same("at a point", 3, x.neededRadius(3, 1));
         Check.same("exactly", 5, x.neededRadius(4, 4));
+        BlastPlanner y = Texts.loaded("road a 0 0 1 0;blast a 1 1 1 1 at 0;blast b 2 0 1 1 at 0;blast c 3 0 1 1 at 0;");
+        Check.same("a road of length 1: beside its end", 1, y.neededRadius(0, 0));
+        Check.same("a road of length 1: beside its end, closed", true, y.closes(0, 0));
+        Check.same("a road of length 1: behind its end", 1, y.neededRadius(1, 0));
+        Check.same("a road of length 1: farther behind", 2, y.neededRadius(2, 0));
         Check.noIndex("blast 5", () -> x.neededRadius(5, 0));
         Check.noIndex("road 5", () -> x.neededRadius(0, 5));
         Check.noIndex("road -1", () -> x.neededRadius(0, -1));

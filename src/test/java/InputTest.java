@@ -118,6 +118,10 @@ public final class InputTest {
         Check.same("vibration", BlastPlanner.VIBRATION, x.reason(0, 600));
         Check.same("dust", 1, x.dustAt(0, 9));
         Texts.load(x, "near n 10 0 99999;road r 0 0 1 1;blast a 0 0 500 9 at 0;");
+        Texts.load(x, "wind 0 2 20;wind 23 2 20;near n 10 0 99999;blast a 0 0 500 9 at 0;");
+        Check.same("winds of the first and the last hour", 1 | 1 << 23, x.dustHours(0));
+        Texts.load(x, "near n 10 0 99999;road r 0 0 1 1;blast a 0 0 500 9 at 0;");
+        Check.same("no wind is left", 0, x.dustHours(0));
         x.schedule(0, 600);
         x.fire(0);
         x.format(0);

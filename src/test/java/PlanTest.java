@@ -262,6 +262,8 @@ public final class PlanTest {
         format(y, 1, "c - w100 r6");
         format(y, 2, "d - w1000 r6");
         format(y, 3, "e - w999 r6");
+        Texts.load(y, "blast f 0 0 1" + " 999 at 0".repeat(10) + " 10 at 0;");
+        format(y, 0, "f - w10000 r0");
     }
 
     private static void format(BlastPlanner x, int blast, String due) {
