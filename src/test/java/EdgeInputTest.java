@@ -208,18 +208,25 @@ public final class EdgeInputTest {
         for (int hour = 0; hour < 24; hour++) {
             winds.append("wind ").append(hour).append(" 2 20;");
         }
-        String full = "day 0 1439;step 200;close 60 60;space 240;" + lines("near", 8, "9 0 0 0 to 700 700 to 1440")
+        String full = "day 0 1439;step 200;close 60 60;space 240;" + lines("near", 8, "9 0 99999 0 to 500 500 to 599")
                 + lines("road", 6, "0 0 9 9") + lines("blast", 6, "0 0 500 99 at 0 99 at 0");
-        String[] texts = {full, winds + "near a 9 0 9;" + lines("blast", 4, "0 0 500" + " 1 at 0".repeat(12)), "",
-            "near a 9 0 999;near b 9 0 999;road a 900 900 990 900;" + lines("blast", 2, "0 0 1 1 at 0"),
-            "wind 0 2 20;wind 23 2 20;near a 9 0 999;blast a 0 0 1 1 at 0;", BLAST + "step 0;", full + "blast", winds + "?"};
-        for (int last = 0; last < 5; last++) {
+        String[] texts = {"", "near a 9 0 999;near b 9 0 999;road a 900 900 990 900;" + lines("blast", 2, "0 0 1 1 at 0"),
+            "wind 0 2 20;wind 23 2 20;near a 9 0 999;blast a 0 0 1 1 at 0;",
+            lines("near", 2, "900 900 999 0 to 1440") + lines("blast", 2, "0 0 1 1 at 0"),
+            "day 600 700;step 50;close 1 1;space 1;" + lines("road", 2, "0 0 9 9") + lines("blast", 2, "0 0 5 9 at 0 9 at 9"),
+            full, winds + "near a 9 0 9;" + lines("blast", 4, "0 0 500" + " 1 at 0".repeat(12)), BLAST + "step 0;",
+            full + "blast", winds + "?"};
+        for (int i = 0; i < 7; i++) {
+            right("text " + i, texts[i]);
+        }
+        int small = 5;
+        for (int last = 0; last < small; last++) {
             for (int first = 0; first < texts.length; first++) {
                 BlastPlanner x = new BlastPlanner();
                 for (int text : new int[] {first, (first + 3) % texts.length, last}) {
                     Texts.type(x, texts[text]);
                     Check.outcome(x::load);
-                    Check.outcome(() -> x.schedule(0, 0));
+                    Check.outcome(() -> x.schedule(0, 600));
                     Check.outcome(() -> x.fire(0));
                     Check.outcome(() -> x.retime(1, 7));
                 }
