@@ -19,6 +19,7 @@ public final class EdgeClosedTest {
         sharedByRunsThatTouch();
         busiestOfTheDay();
         busiestOfSeveral();
+        busiestOfEachRoad();
         sirensBeforeTheDay();
         sirensBehindTheDay();
         sirensInTheSameMinute();
@@ -241,6 +242,9 @@ public final class EdgeClosedTest {
         }
         Check.same("one run over three", 3 + 20 + 3, scheduled("close 10 10;", "RRRSSS", 500, 520, 540, 483, 522, 557).sharedMinutes(0, 1));
         Check.same("the day does not wrap", 0, scheduled("", "RS", 0, 1439).sharedMinutes(0, 1));
+        BlastPlanner x = scheduled("", "RRRS", 100, 300, 500, 507);
+        Check.same("the last of three runs with a single one", 8, x.sharedMinutes(0, 1));
+        Check.same("a single run with the last of three", 8, x.sharedMinutes(1, 0));
     }
 
     private static void busiestOfTheDay() {
@@ -274,6 +278,21 @@ public final class EdgeClosedTest {
         x.cancel(1);
         Check.same("nothing is left", -1, x.busiestHour());
         Check.same("full hours", 9, scheduled("close 60 60;", "R", 600).busiestHour());
+    }
+
+    /** The sum is over all roads, also if there are more of them than blasts. */
+    private static void busiestOfEachRoad() {
+        for (int closed = 0; closed < 6; closed++) {
+            StringBuilder text = new StringBuilder("blast q 0 0 1 1 at 0;");
+            for (int road = 0; road < 6; road++) {
+                String point = road == closed ? "0 0" : "999 999";
+                text.append("road ").append((char) ('a' + road)).append(' ').append(point).append(' ').append(point).append(';');
+            }
+            BlastPlanner x = Texts.loaded(text.toString());
+            x.schedule(0, 630);
+            Check.same("only road " + closed + " is closed", 10, x.busiestHour());
+            Check.same("closed by road " + closed, 15, x.totalClosed());
+        }
     }
 
     // ---- sirens

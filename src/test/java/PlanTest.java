@@ -15,7 +15,6 @@ public final class PlanTest {
         undoDropsTheOldest();
         promise61Format();
         promise62FormattedByte();
-        examples();
         Check.finish("PlanTest");
     }
 
@@ -281,52 +280,5 @@ public final class PlanTest {
         Check.same("before", -1, x.formattedByte(-1));
         Check.same("far before", -1, x.formattedByte(Integer.MIN_VALUE));
         Check.same("far behind", -1, x.formattedByte(Integer.MAX_VALUE));
-    }
-
-    private static void examples() {
-        BlastPlanner x = new BlastPlanner();
-        x.append(1651270003, 1948279072, 807415840, 958411056, 543257632);
-        x.append(807417120, 1635000375, 540549217, 1948268603, 1852137842);
-        Check.same("example 1: append", 60, x.append(544088115, 540024889, 808467200, 0, 0));
-        Check.same("example 1: truncate", true, x.truncate(51));
-        Check.same("example 1: load", 1, x.load());
-        Check.same("example 1: windowSize", 15, x.windowSize(0));
-        Check.same("example 1: windowStart", 0, x.windowStart(0));
-        Check.same("example 1: vibration", 1500, x.vibration(0, 0));
-        Check.same("example 1: neededGap", -1, x.neededGap(0, 0));
-        BlastPlanner y = new BlastPlanner();
-        y.append(1651270003, 1948279072, 807415840, 958411056, 543257632);
-        y.append(809198188, 1634956320, 1629499680, 824195360, 825237601);
-        y.append(1948266555, 0, 0, 0, 0);
-        y.truncate(44);
-        Check.badArgument("example 2: load", y::load);
-        Check.same("example 2: errorOffset", 28, y.errorOffset());
-        Check.same("example 2: errorKind", 3, y.errorKind());
-        BlastPlanner z = new BlastPlanner();
-        z.append(1684109600, 909127712, 926036027, 1919902052, 544350256);
-        z.append(540352569, 540359522, 1818325876, 543236144, 540024885);
-        z.append(540090465, 1948266555, 1651270003, 1948279328, 807415840);
-        z.append(874524960, 1635000368, 989855744, 0, 0);
-        z.truncate(69);
-        Check.same("example 3: load", 2, z.load());
-        Check.same("example 3: closedBy(0)", 1, z.closedBy(0));
-        Check.same("example 3: closedBy(1)", 0, z.closedBy(1));
-        Check.same("example 3: schedule", -1, z.schedule(0, 600));
-        Check.same("example 3: crowded", 5, z.reason(1, 610));
-        Check.same("example 3: allowed", 0, z.reason(1, 615));
-        Check.same("example 3: closedMinutes", 15, z.closedMinutes(0));
-        Check.same("example 3: planTime", 660, z.planTime(1));
-        BlastPlanner w = new BlastPlanner();
-        w.append(1651270003, 1948279072, 807415840, 958411040, 1635000368);
-        w.append(989855744, 0, 0, 0, 0);
-        w.truncate(21);
-        Check.same("example 4: load", 1, w.load());
-        Check.badState("example 4: schedule(0, 961)", () -> w.schedule(0, 961));
-        Check.same("example 4: schedule", -1, w.schedule(0, 960));
-        Check.same("example 4: sirenMinute", 950, w.sirenMinute(0));
-        Check.same("example 4: fire", 960, w.fire(0));
-        Check.same("example 4: format", 19, w.format(0));
-        Check.same("example 4: undo", 1, w.undo());
-        Check.same("example 4: isFired", false, w.isFired(0));
     }
 }
